@@ -644,7 +644,8 @@ public final class QuarryMesh {
             if (length <= 0) {
                 return NONE;
             }
-            return row[Math.floorMod(place, length)];
+            int rest = place % length;
+            return row[rest < 0 ? rest + length : rest];
         }
 
         int placeOf(int p) {
@@ -995,7 +996,7 @@ public final class QuarryMesh {
         }
 
         private void setOwner(int a, int b, int f) {
-            if (isPointNumber(a) && isPointNumber(b)) {
+            if (a >= 0 && a < MAX_POINTS && b >= 0 && b < MAX_POINTS) {
                 owners[a * MAX_POINTS + b] = f + 1;
             }
         }

@@ -1,0 +1,107 @@
+/** Meshes that several tests start from. */
+final class Shapes {
+    private Shapes() {
+    }
+
+    /** POINTS 0 to n - 1, no three of which are in one line. */
+    static QuarryMesh points(int n) {
+        QuarryMesh mesh = new QuarryMesh();
+        for (int i = 0; i < n; i++) {
+            mesh.point(i, i * i % 97, i % 7);
+        }
+        return mesh;
+    }
+
+    /** (0, 0, 0), (4, 0, 0), (0, 4, 0) and one FACE. */
+    static QuarryMesh triangle() {
+        QuarryMesh mesh = new QuarryMesh();
+        mesh.point(0, 0, 0);
+        mesh.point(4, 0, 0);
+        mesh.point(0, 4, 0);
+        mesh.face(0, 1, 2, -1);
+        return mesh;
+    }
+
+    /** FACES 0 1 2 and 1 0 3. */
+    static QuarryMesh twoTriangles() {
+        QuarryMesh mesh = triangle();
+        mesh.point(4, -4, 0);
+        mesh.face(1, 0, 3, -1);
+        return mesh;
+    }
+
+    /** FACES 0 1 2 and 2 1 0. */
+    static QuarryMesh twoSides() {
+        QuarryMesh mesh = triangle();
+        mesh.face(2, 1, 0, -1);
+        return mesh;
+    }
+
+    /** FACES 0 1 2 and 0 3 4, which have the POINT 0 in common, but no EDGE. */
+    static QuarryMesh bowTie() {
+        QuarryMesh mesh = points(5);
+        mesh.face(0, 1, 2, -1);
+        mesh.face(0, 3, 4, -1);
+        return mesh;
+    }
+
+    /** FACES 0 1 2, 2 1 3, 2 3 4 and 4 3 0: one SHELL with two FANS at 0, and one HOLE that has 0 twice. */
+    static QuarryMesh pinched() {
+        QuarryMesh mesh = points(5);
+        mesh.face(0, 1, 2, -1);
+        mesh.face(2, 1, 3, -1);
+        mesh.face(2, 3, 4, -1);
+        mesh.face(4, 3, 0, -1);
+        return mesh;
+    }
+
+    /** FACES 0 2 1, 0 1 3, 1 2 3 and 0 3 2 of (0, 0, 0), (6, 0, 0), (0, 6, 0) and (0, 0, 6). */
+    static QuarryMesh tetrahedron() {
+        QuarryMesh mesh = new QuarryMesh();
+        mesh.point(0, 0, 0);
+        mesh.point(6, 0, 0);
+        mesh.point(0, 6, 0);
+        mesh.point(0, 0, 6);
+        mesh.face(0, 2, 1, -1);
+        mesh.face(0, 1, 3, -1);
+        mesh.face(1, 2, 3, -1);
+        mesh.face(0, 3, 2, -1);
+        return mesh;
+    }
+
+    /** The box of (0, 0, 0) and 2. */
+    static QuarryMesh box() {
+        QuarryMesh mesh = new QuarryMesh();
+        mesh.box(0, 0, 0, 2);
+        return mesh;
+    }
+
+    /** One FACE of n POINTS, 3 to 12: a triangle with its last EDGE SPLIT again and again. */
+    static QuarryMesh polygon(int n) {
+        QuarryMesh mesh = triangle();
+        for (int i = 3; i < n; i++) {
+            mesh.split(i - 1, 0);
+        }
+        return mesh;
+    }
+
+    /** Lays POINTS until there were so many. */
+    static void usePoints(QuarryMesh mesh, int ever) {
+        int p = mesh.point(0, 0, 0);
+        while (p < ever - 1) {
+            p = mesh.point(0, 0, 0);
+        }
+    }
+
+    /** Lays FACES on three new POINTS and takes them away, until there were so many. */
+    static void useFaces(QuarryMesh mesh, int ever) {
+        int a = mesh.point(0, 0, 0);
+        int b = mesh.point(0, 0, 1);
+        int c = mesh.point(0, 1, 0);
+        int f = -1;
+        while (f < ever - 1) {
+            f = mesh.face(a, b, c, -1);
+            mesh.dropFace(f);
+        }
+    }
+}
