@@ -168,6 +168,14 @@ public final class BesideTest {
         int q = mixed.point(8, 9, 9);
         mixed.face(0, p, q, -1);
         Check.same("around: a closed FAN and an open one", () -> around(mixed, 0), "5 4 1 2");
+        QuarryMesh wide = Shapes.points(8);
+        int[][] rings = {{0, 7, 6}, {0, 6, 1}, {0, 1, 5}, {0, 5, 4}, {0, 4, 3}};
+        for (int[] ring : rings) {
+            wide.face(ring[0], ring[1], ring[2], -1);
+        }
+        Check.same("around: a FAN of five", () -> around(wide, 0), "6 5 1 1");
+        wide.turn();
+        Check.same("around: a FAN of five, turned", () -> around(wide, 0), "6 5 1 1");
         QuarryMesh gap = Shapes.pinched();
         gap.dropFace(2);
         Check.same("around: a FAN with a gap", () -> around(gap, 3), "4 2 2 2");

@@ -69,6 +69,15 @@ final class Shapes {
         return mesh;
     }
 
+    /** FACES 0 1 4, 1 2 3 and 2 1 0 3: 1 can't be COLLAPSED to 3, but 3 to 1 can. */
+    static QuarryMesh oneWay() {
+        QuarryMesh mesh = points(5);
+        mesh.face(0, 1, 4, -1);
+        mesh.face(1, 2, 3, -1);
+        mesh.face(2, 1, 0, 3);
+        return mesh;
+    }
+
     /** The box of (0, 0, 0) and 2. */
     static QuarryMesh box() {
         QuarryMesh mesh = new QuarryMesh();

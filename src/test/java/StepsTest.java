@@ -101,7 +101,9 @@ public final class StepsTest {
         }
         Check.refused("cut: not in its RING", mesh, Check.ARGUMENT,
                 () -> mesh.cut(1, 4, 0), () -> mesh.cut(1, 0, 4), () -> mesh.cut(1, -1, 4), () -> mesh.cut(1, 4, -1),
-                () -> mesh.cut(1, -1, -1), () -> mesh.cut(1, 1000, 4), () -> mesh.cut(1, 4, Integer.MAX_VALUE));
+                () -> mesh.cut(1, -1, -1), () -> mesh.cut(1, 1000, 4), () -> mesh.cut(1, 4, Integer.MAX_VALUE),
+                () -> mesh.cut(1, 5, 0), () -> mesh.cut(1, 0, 5), () -> mesh.cut(1, 0, 6), () -> mesh.cut(1, 6, 0),
+                () -> mesh.cut(1, 0, 0), () -> mesh.cut(1, 7, 3));
         Check.refused("cut: the same, or beside each other", mesh, Check.ARGUMENT,
                 () -> mesh.cut(1, 4, 4), () -> mesh.cut(1, 4, 5), () -> mesh.cut(1, 5, 4),
                 () -> mesh.cut(1, 7, 4), () -> mesh.cut(1, 4, 7));
@@ -226,11 +228,12 @@ public final class StepsTest {
         twice.face(1, 3, 5, -1);
         Check.refused("collapse: a HALF in two FACES", twice, Check.STATE,
                 () -> twice.collapse(0, 1), () -> twice.collapse(1, 0));
-        QuarryMesh both = Shapes.points(5);
-        both.face(0, 1, 4, -1);
-        both.face(1, 2, 3, -1);
-        both.face(2, 1, 0, 3);
-        Check.same("collapse: where HALVES change their FACES", () -> both.may(0), 11);
+        QuarryMesh oneWay = Shapes.oneWay();
+        Check.refused("collapse: a HALF in two FACES that way alone", oneWay, Check.STATE,
+                () -> oneWay.collapse(3, 1), () -> oneWay.collapse(0, 3), () -> oneWay.collapse(3, 0));
+        Check.same("collapse: where HALVES change their FACES", () -> oneWay.may(0), 11);
+        Check.same("collapse: the other way", () -> oneWay.collapse(1, 3), 1);
+        Check.same("collapse: its RING", () -> Check.ring(oneWay, 2), "2 1 0");
     }
 
     private static void promise12Flip() {
@@ -423,6 +426,10 @@ public final class StepsTest {
         Check.same("smooth: all where they were", one::smooth, 0);
         one.move(3, 5, 5, 6);
         Check.same("smooth: one back, the others not elsewhere", one::smooth, 1);
+        one.move(3, 5, 6, 5);
+        Check.same("smooth: elsewhere by y alone", one::smooth, 1);
+        one.move(3, 6, 5, 5);
+        Check.same("smooth: elsewhere by x alone", one::smooth, 1);
     }
 
     private static void promise16SmoothOpen() {

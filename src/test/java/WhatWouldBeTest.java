@@ -92,6 +92,12 @@ public final class WhatWouldBeTest {
         twice.face(0, 3, 4, -1);
         twice.face(1, 3, 5, -1);
         Check.refused("volumeWith: a HALF in two FACES", twice, Check.STATE, () -> twice.volumeWith(0, 1));
+        QuarryMesh oneWay = Shapes.oneWay();
+        Check.refused("volumeWith: a HALF in two FACES that way alone", oneWay, Check.STATE,
+                () -> oneWay.volumeWith(3, 1));
+        QuarryMesh done = Shapes.oneWay();
+        done.collapse(1, 3);
+        Check.same("volumeWith: the other way", () -> oneWay.volumeWith(1, 3), done.volume());
     }
 
     private static void promise35HolesWithout() {
