@@ -33,15 +33,6 @@ final class Check {
         }
     }
 
-    /** Each of the calls throws that, and the mesh is behind all of them as it was. */
-    static void refused(String what, QuarryMesh mesh, String want, Call... calls) {
-        String ahead = picture(mesh);
-        for (int i = 0; i < calls.length; i++) {
-            same(what + ", call " + (i + 1), calls[i], want);
-        }
-        same(what + ", nothing changed", () -> picture(mesh), ahead);
-    }
-
     static boolean isAllRight() {
         return wrong == 0;
     }
@@ -65,19 +56,5 @@ final class Check {
     /** x, y and z of a POINT as text: "1 2 3". */
     static String place(QuarryMesh mesh, int point) {
         return mesh.at(point, 0) + " " + mesh.at(point, 1) + " " + mesh.at(point, 2);
-    }
-
-    /** Every POINT's place and every FACE's RING, by calls of the face alone. */
-    static String picture(QuarryMesh mesh) {
-        StringBuilder text = new StringBuilder();
-        for (int p = 0; p < 100; p++) {
-            int point = p;
-            text.append(answer(() -> place(mesh, point))).append('\n');
-        }
-        for (int f = 0; f < 160; f++) {
-            int face = f;
-            text.append(answer(() -> ring(mesh, face))).append('\n');
-        }
-        return text.toString();
     }
 }

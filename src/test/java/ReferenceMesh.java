@@ -157,8 +157,12 @@ final class ReferenceMesh {
         }
     }
 
+    boolean hasFace(int f) {
+        return f >= 0 && f < faces.size() && faces.get(f) != null;
+    }
+
     private List<Integer> needFace(int f) {
-        if (f < 0 || f >= faces.size() || faces.get(f) == null) {
+        if (!hasFace(f)) {
             throw new IndexOutOfBoundsException();
         }
         return faces.get(f);

@@ -78,6 +78,14 @@ final class Shapes {
         return mesh;
     }
 
+    /** FACES 0 1 2 and 3 4 5 6, which have nothing in common. */
+    static QuarryMesh triangleAndSquare() {
+        QuarryMesh mesh = points(7);
+        mesh.face(0, 1, 2, -1);
+        mesh.face(3, 4, 5, 6);
+        return mesh;
+    }
+
     /** The box of (0, 0, 0) and 2. */
     static QuarryMesh box() {
         QuarryMesh mesh = new QuarryMesh();
@@ -91,6 +99,89 @@ final class Shapes {
         for (int i = 3; i < n; i++) {
             mesh.split(i - 1, 0);
         }
+        return mesh;
+    }
+
+    /** Two FACES with one EDGE, 0 to 1, in common, with so many POINTS. */
+    static QuarryMesh ringsOf(int one, int two) {
+        QuarryMesh mesh = twoTriangles();
+        for (int i = 3, last = 2; i < one; i++) {
+            last = mesh.split(last, 0);
+        }
+        for (int i = 3, last = 3; i < two; i++) {
+            last = mesh.split(last, 1);
+        }
+        return mesh;
+    }
+
+    /** FACES 0 1 2, 0 2 3 and so on: so many round the POINT 0, with a gap between the last one and the first. */
+    static QuarryMesh fan(int n) {
+        QuarryMesh mesh = points(n + 2);
+        for (int i = 1; i <= n; i++) {
+            mesh.face(0, i, i + 1, -1);
+        }
+        return mesh;
+    }
+
+    /** The same without a gap: the last FACE goes back to the POINT 1. */
+    static QuarryMesh closedFan(int n) {
+        QuarryMesh mesh = points(n + 1);
+        for (int i = 1; i <= n; i++) {
+            mesh.face(0, i, i % n + 1, -1);
+        }
+        return mesh;
+    }
+
+    /** FACES 0 1 2, 2 3 4, 4 5 6 and so on: each has just a POINT in common with the next one. */
+    static QuarryMesh chain(int n) {
+        QuarryMesh mesh = points(2 * n + 1);
+        for (int i = 0; i < n; i++) {
+            mesh.face(2 * i, 2 * i + 1, 2 * i + 2, -1);
+        }
+        return mesh;
+    }
+
+    /**
+     * 97 POINTS and up to 90 FACES of four in a row, with one HOLE of 2 * n + 2 HALVES that has POINTS twice:
+     * one side goes on by 1, the other one by 2, so that no two FACES but the next ones have an EDGE in common.
+     */
+    static QuarryMesh strip(int n) {
+        QuarryMesh mesh = points(97);
+        for (int i = 0; i < n; i++) {
+            mesh.face(i, i + 1, (2 * i + 5) % 97, (2 * i + 3) % 97);
+        }
+        return mesh;
+    }
+
+    /** 97 POINTS and 160 FACES of three, none GONE, no two of which have an EDGE in common. */
+    static QuarryMesh crowded() {
+        QuarryMesh mesh = points(97);
+        for (int i = 0; i < 97; i++) {
+            mesh.face(i, (i + 1) % 97, (i + 4) % 97, -1);
+        }
+        for (int i = 0; i < 63; i++) {
+            mesh.face(i, (i + 2) % 97, (i + 7) % 97, -1);
+        }
+        return mesh;
+    }
+
+    /** The mesh, without these FACES. */
+    static QuarryMesh without(QuarryMesh mesh, int... faces) {
+        for (int f : faces) {
+            mesh.dropFace(f);
+        }
+        return mesh;
+    }
+
+    /** The mesh, with so many POINTS ever. */
+    static QuarryMesh pointsUsed(QuarryMesh mesh, int ever) {
+        usePoints(mesh, ever);
+        return mesh;
+    }
+
+    /** The mesh, with three more POINTS and so many FACES ever. */
+    static QuarryMesh facesUsed(QuarryMesh mesh, int ever) {
+        useFaces(mesh, ever);
         return mesh;
     }
 

@@ -1,39 +1,19 @@
-/** Promises 8 to 17. */
+/** Promises 8 to 17 in ordinary use; their boundary cases stand in StepsBoundaryTest and WholesBoundaryTest. */
 public final class StepsTest {
     public static void main(String[] args) {
         promise08Split();
-        promise08SplitRefused();
         promise09Cut();
-        promise09CutRefused();
         promise10Join();
-        promise10JoinRefused();
         promise11Collapse();
         promise11CollapseOtherRings();
-        promise11CollapseRefused();
         promise12Flip();
-        promise12FlipRefused();
         promise13Draw();
-        promise13DrawRefused();
         promise14Fill();
-        promise14FillRefused();
         promise15Quarters();
-        promise15QuartersRefused();
         promise16Smooth();
         promise16SmoothOpen();
         promise17Turn();
         Check.end();
-    }
-
-    /** A pair of numbers of which one or both are no POINTS, for a mesh with POINTS 0 and 1 and fewer than 50. */
-    private static void refusesNoPoints(String what, QuarryMesh mesh, PairCall call) {
-        for (int p : new int[] {-1, 50, 99, 100, Integer.MIN_VALUE, Integer.MAX_VALUE}) {
-            Check.refused(what + ": no POINT " + p, mesh, Check.INDEX,
-                    () -> call.run(p, 0), () -> call.run(0, p), () -> call.run(p, p));
-        }
-    }
-
-    private interface PairCall {
-        Object run(int a, int b);
     }
 
     private static void promise08Split() {
@@ -58,27 +38,6 @@ public final class StepsTest {
         Check.same("split: in between", () -> Check.ring(open, 0), "0 1 4 2 3");
     }
 
-    private static void promise08SplitRefused() {
-        QuarryMesh mesh = Shapes.twoTriangles();
-        refusesNoPoints("split", mesh, mesh::split);
-        Check.refused("split: no EDGE", mesh, Check.ARGUMENT,
-                () -> mesh.split(2, 3), () -> mesh.split(3, 2), () -> mesh.split(0, 0));
-        QuarryMesh full = Shapes.polygon(12);
-        Check.refused("split: 13 POINTS in a RING", full, Check.STATE, () -> full.split(0, 1), () -> full.split(1, 0));
-        int p = full.point(9, 9, 9);
-        full.face(1, 0, p, -1);
-        Check.refused("split: 13 in one of two RINGS", full, Check.STATE,
-                () -> full.split(0, 1), () -> full.split(1, 0));
-        Check.same("split: an EDGE of the other RING alone", () -> full.split(0, p), 13);
-        QuarryMesh eleven = Shapes.polygon(11);
-        Check.same("split: 12 POINTS in a RING", () -> eleven.split(0, 1), 11);
-        QuarryMesh many = Shapes.twoTriangles();
-        Shapes.usePoints(many, 99);
-        Check.same("split: the 100th POINT", () -> many.split(1, 0), 99);
-        Check.refused("split: 100 POINTS were there", many, Check.STATE, () -> many.split(1, 2));
-        Check.refused("split: the argument ahead of the state", many, Check.ARGUMENT, () -> many.split(2, 3));
-    }
-
     private static void promise09Cut() {
         QuarryMesh mesh = Shapes.box();
         Check.same("cut: the new FACE", () -> mesh.cut(1, 4, 6), 6);
@@ -92,37 +51,6 @@ public final class StepsTest {
         Check.same("cut: again", () -> round.cut(1, 2, 5), 2);
         Check.same("cut: from a on", () -> Check.ring(round, 1), "2 3 4 5");
         Check.same("cut: from b on", () -> Check.ring(round, 2), "5 1 2");
-    }
-
-    private static void promise09CutRefused() {
-        QuarryMesh mesh = Shapes.box();
-        for (int f : new int[] {-1, 6, 159, 160, Integer.MIN_VALUE, Integer.MAX_VALUE}) {
-            Check.refused("cut: no FACE " + f, mesh, Check.INDEX, () -> mesh.cut(f, 4, 6), () -> mesh.cut(f, 0, 0));
-        }
-        Check.refused("cut: not in its RING", mesh, Check.ARGUMENT,
-                () -> mesh.cut(1, 4, 0), () -> mesh.cut(1, 0, 4), () -> mesh.cut(1, -1, 4), () -> mesh.cut(1, 4, -1),
-                () -> mesh.cut(1, -1, -1), () -> mesh.cut(1, 1000, 4), () -> mesh.cut(1, 4, Integer.MAX_VALUE),
-                () -> mesh.cut(1, 5, 0), () -> mesh.cut(1, 0, 5), () -> mesh.cut(1, 0, 6), () -> mesh.cut(1, 6, 0),
-                () -> mesh.cut(1, 0, 0), () -> mesh.cut(1, 7, 3));
-        Check.refused("cut: the same, or beside each other", mesh, Check.ARGUMENT,
-                () -> mesh.cut(1, 4, 4), () -> mesh.cut(1, 4, 5), () -> mesh.cut(1, 5, 4),
-                () -> mesh.cut(1, 7, 4), () -> mesh.cut(1, 4, 7));
-        mesh.dropFace(5);
-        Check.refused("cut: a GONE FACE", mesh, Check.INDEX, () -> mesh.cut(5, 3, 4));
-        QuarryMesh taken = Shapes.points(5);
-        taken.face(0, 1, 2, 3);
-        taken.face(0, 2, 4, -1);
-        Check.refused("cut: (a, b) or (b, a) is in a FACE", taken, Check.STATE,
-                () -> taken.cut(0, 0, 2), () -> taken.cut(0, 2, 0));
-        QuarryMesh many = Shapes.points(4);
-        Shapes.useFaces(many, 158);
-        many.face(0, 1, 2, 3);
-        Check.same("cut: the 160th FACE", () -> many.cut(158, 1, 3), 159);
-        QuarryMesh full = Shapes.points(4);
-        Shapes.useFaces(full, 159);
-        full.face(0, 1, 2, 3);
-        Check.refused("cut: 160 FACES were there", full, Check.STATE, () -> full.cut(159, 1, 3));
-        Check.refused("cut: the argument ahead of the state", full, Check.ARGUMENT, () -> full.cut(159, 1, 2));
     }
 
     private static void promise10Join() {
@@ -139,33 +67,6 @@ public final class StepsTest {
         Check.same("join: two of three", () -> triangles.join(0, 1), 0);
         Check.same("join: its RING", () -> Check.ring(triangles, 0), "1 2 0 3");
         Check.same("join: holes(), edges()", () -> triangles.holes() + " " + triangles.edges(), "1 4");
-    }
-
-    private static void promise10JoinRefused() {
-        QuarryMesh mesh = Shapes.twoTriangles();
-        refusesNoPoints("join", mesh, mesh::join);
-        Check.refused("join: a HALF in no FACE", mesh, Check.ARGUMENT,
-                () -> mesh.join(1, 2), () -> mesh.join(2, 1), () -> mesh.join(2, 3), () -> mesh.join(0, 0));
-        QuarryMesh sides = Shapes.twoSides();
-        Check.refused("join: another POINT in common", sides, Check.STATE,
-                () -> sides.join(0, 1), () -> sides.join(1, 0), () -> sides.join(2, 0));
-        QuarryMesh twelve = ringsOf(7, 7);
-        Check.same("join: 12 POINTS", () -> twelve.join(0, 1), 0);
-        Check.same("join: 12 POINTS", () -> twelve.size(0), 12);
-        QuarryMesh thirteen = ringsOf(7, 8);
-        Check.refused("join: 13 POINTS", thirteen, Check.STATE, () -> thirteen.join(0, 1), () -> thirteen.join(1, 0));
-    }
-
-    /** Two FACES with one EDGE, 0 to 1, in common, with so many POINTS. */
-    private static QuarryMesh ringsOf(int one, int two) {
-        QuarryMesh mesh = Shapes.twoTriangles();
-        for (int i = 3, last = 2; i < one; i++) {
-            last = mesh.split(last, 0);
-        }
-        for (int i = 3, last = 3; i < two; i++) {
-            last = mesh.split(last, 1);
-        }
-        return mesh;
     }
 
     private static void promise11Collapse() {
@@ -212,30 +113,6 @@ public final class StepsTest {
         Check.same("collapse: its HALVES", () -> stays.faceOf(0, 2) + " " + stays.faceOf(2, 3) + " " + stays.faceOf(3, 0), "0 0 0");
     }
 
-    private static void promise11CollapseRefused() {
-        QuarryMesh mesh = Shapes.twoTriangles();
-        refusesNoPoints("collapse", mesh, mesh::collapse);
-        Check.refused("collapse: no NEIGHBOURS", mesh, Check.ARGUMENT,
-                () -> mesh.collapse(2, 3), () -> mesh.collapse(3, 2), () -> mesh.collapse(0, 0));
-        Check.refused("collapse: no FACE left", mesh, Check.STATE,
-                () -> mesh.collapse(0, 1), () -> mesh.collapse(1, 0));
-        QuarryMesh alone = Shapes.triangle();
-        Check.refused("collapse: no FACE left", alone, Check.STATE,
-                () -> alone.collapse(0, 1), () -> alone.collapse(1, 0), () -> alone.collapse(0, 2));
-        QuarryMesh twice = Shapes.points(6);
-        twice.face(0, 1, 2, -1);
-        twice.face(0, 3, 4, -1);
-        twice.face(1, 3, 5, -1);
-        Check.refused("collapse: a HALF in two FACES", twice, Check.STATE,
-                () -> twice.collapse(0, 1), () -> twice.collapse(1, 0));
-        QuarryMesh oneWay = Shapes.oneWay();
-        Check.refused("collapse: a HALF in two FACES that way alone", oneWay, Check.STATE,
-                () -> oneWay.collapse(3, 1), () -> oneWay.collapse(0, 3), () -> oneWay.collapse(3, 0));
-        Check.same("collapse: where HALVES change their FACES", () -> oneWay.may(0), 11);
-        Check.same("collapse: the other way", () -> oneWay.collapse(1, 3), 1);
-        Check.same("collapse: its RING", () -> Check.ring(oneWay, 2), "2 1 0");
-    }
-
     private static void promise12Flip() {
         QuarryMesh mesh = Shapes.twoTriangles();
         Check.same("flip: 1000 * c + d", () -> mesh.flip(0, 1), 2003);
@@ -251,29 +128,6 @@ public final class StepsTest {
         Check.same("flip: the other way round", () -> other.flip(1, 0), 3002);
         Check.same("flip: the first FACE", () -> Check.ring(other, 1), "3 2 0");
         Check.same("flip: the second FACE", () -> Check.ring(other, 0), "2 3 1");
-    }
-
-    private static void promise12FlipRefused() {
-        QuarryMesh mesh = Shapes.twoTriangles();
-        refusesNoPoints("flip", mesh, mesh::flip);
-        Check.refused("flip: a HALF in no FACE", mesh, Check.ARGUMENT,
-                () -> mesh.flip(1, 2), () -> mesh.flip(2, 1), () -> mesh.flip(2, 3), () -> mesh.flip(0, 0));
-        QuarryMesh box = Shapes.box();
-        Check.refused("flip: two FACES of 4", box, Check.ARGUMENT, () -> box.flip(0, 1));
-        box.cut(0, 0, 2);
-        Check.refused("flip: one of 4", box, Check.ARGUMENT, () -> box.flip(0, 1), () -> box.flip(1, 0));
-        QuarryMesh sides = Shapes.twoSides();
-        Check.refused("flip: c is d", sides, Check.STATE, () -> sides.flip(0, 1), () -> sides.flip(1, 0));
-        QuarryMesh tetrahedron = Shapes.tetrahedron();
-        Check.refused("flip: an EDGE between c and d", tetrahedron, Check.STATE,
-                () -> tetrahedron.flip(0, 1), () -> tetrahedron.flip(2, 3));
-        for (int[] ring : new int[][] {{2, 3, 4}, {3, 2, 4}}) {
-            QuarryMesh half = Shapes.twoTriangles();
-            half.point(9, 9, 9);
-            half.face(ring[0], ring[1], ring[2], -1);
-            Check.refused("flip: a HALF between c and d", half, Check.STATE,
-                    () -> half.flip(0, 1), () -> half.flip(1, 0));
-        }
     }
 
     private static void promise13Draw() {
@@ -297,32 +151,6 @@ public final class StepsTest {
         Check.same("draw: up to 500", () -> far.draw(0, 496, -500, 500), 3);
     }
 
-    private static void promise13DrawRefused() {
-        QuarryMesh mesh = Shapes.triangle();
-        for (int f : new int[] {-1, 1, 159, 160, Integer.MIN_VALUE, Integer.MAX_VALUE}) {
-            Check.refused("draw: no FACE " + f, mesh, Check.INDEX,
-                    () -> mesh.draw(f, 0, 0, 0), () -> mesh.draw(f, 501, 0, 0));
-        }
-        Check.refused("draw: out of reach", mesh, Check.ARGUMENT,
-                () -> mesh.draw(0, 497, 0, 0), () -> mesh.draw(0, -501, 0, 0), () -> mesh.draw(0, 0, 497, 0),
-                () -> mesh.draw(0, 0, -501, 0), () -> mesh.draw(0, 0, 0, 501), () -> mesh.draw(0, 0, 0, -501),
-                () -> mesh.draw(0, Integer.MAX_VALUE, 0, 0), () -> mesh.draw(0, 0, Integer.MIN_VALUE, 0),
-                () -> mesh.draw(0, 0, 0, Integer.MAX_VALUE));
-        QuarryMesh many = Shapes.triangle();
-        Shapes.usePoints(many, 97);
-        Check.same("draw: up to the 100th POINT", () -> many.draw(0, 1, 1, 1), 97);
-        QuarryMesh full = Shapes.triangle();
-        Shapes.usePoints(full, 98);
-        Check.refused("draw: more than 100 POINTS", full, Check.STATE, () -> full.draw(0, 1, 1, 1));
-        Check.refused("draw: the argument ahead of the state", full, Check.ARGUMENT, () -> full.draw(0, 500, 1, 1));
-        QuarryMesh faces = Shapes.triangle();
-        Shapes.useFaces(faces, 157);
-        Check.same("draw: up to the 160th FACE", () -> faces.draw(0, 1, 1, 1), 6);
-        QuarryMesh more = Shapes.triangle();
-        Shapes.useFaces(more, 158);
-        Check.refused("draw: more than 160 FACES", more, Check.STATE, () -> more.draw(0, 1, 1, 1));
-    }
-
     private static void promise14Fill() {
         QuarryMesh mesh = Shapes.box();
         mesh.dropFace(1);
@@ -339,27 +167,6 @@ public final class StepsTest {
         QuarryMesh twelve = Shapes.polygon(12);
         Check.same("fill: 12 POINTS", () -> twelve.fill(0, 11), 1);
         Check.same("fill: its RING", () -> Check.ring(twelve, 1), "0 11 10 9 8 7 6 5 4 3 2 1");
-    }
-
-    private static void promise14FillRefused() {
-        QuarryMesh mesh = Shapes.twoTriangles();
-        refusesNoPoints("fill", mesh, mesh::fill);
-        Check.refused("fill: not OPEN", mesh, Check.ARGUMENT,
-                () -> mesh.fill(0, 1), () -> mesh.fill(1, 2), () -> mesh.fill(2, 3), () -> mesh.fill(0, 0));
-        QuarryMesh thirteen = Shapes.polygon(12);
-        int p = thirteen.point(9, 9, 9);
-        thirteen.face(1, 0, p, -1);
-        Check.refused("fill: 13 POINTS", thirteen, Check.STATE, () -> thirteen.fill(2, 1), () -> thirteen.fill(1, p));
-        QuarryMesh pinched = Shapes.pinched();
-        Check.refused("fill: a POINT twice", pinched, Check.STATE,
-                () -> pinched.fill(1, 0), () -> pinched.fill(0, 3), () -> pinched.fill(2, 4));
-        QuarryMesh many = Shapes.triangle();
-        Shapes.useFaces(many, 159);
-        Check.same("fill: the 160th FACE", () -> many.fill(1, 0), 159);
-        QuarryMesh full = Shapes.triangle();
-        Shapes.useFaces(full, 160);
-        Check.refused("fill: 160 FACES were there", full, Check.STATE, () -> full.fill(1, 0));
-        Check.refused("fill: the argument ahead of the state", full, Check.ARGUMENT, () -> full.fill(0, 1));
     }
 
     private static void promise15Quarters() {
@@ -386,21 +193,6 @@ public final class StepsTest {
         QuarryMesh none = Shapes.points(2);
         Check.same("quarters: without FACES", none::quarters, 0);
         Check.same("quarters: without FACES", none::points, 2);
-    }
-
-    private static void promise15QuartersRefused() {
-        QuarryMesh many = Shapes.triangle();
-        Shapes.usePoints(many, 96);
-        Check.same("quarters: up to the 100th POINT", many::quarters, 3);
-        QuarryMesh full = Shapes.triangle();
-        Shapes.usePoints(full, 97);
-        Check.refused("quarters: more than 100 POINTS", full, Check.STATE, full::quarters);
-        QuarryMesh faces = Shapes.triangle();
-        Shapes.useFaces(faces, 157);
-        Check.same("quarters: up to the 160th FACE", faces::quarters, 3);
-        QuarryMesh more = Shapes.triangle();
-        Shapes.useFaces(more, 158);
-        Check.refused("quarters: more than 160 FACES", more, Check.STATE, more::quarters);
     }
 
     private static void promise16Smooth() {
