@@ -6,6 +6,7 @@ public final class RandomRunsTest {
     private static final int RUNS = 160;
     private static final int CALLS = 512;
     private static final int LOOK_CALLS = 3;
+    private static final int TRIES = 8;
 
     private final int run;
     private final QuarryMesh mesh = new QuarryMesh();
@@ -68,6 +69,32 @@ public final class RandomRunsTest {
         return upTo(2) == 0 ? new int[] {a, b} : new int[] {b, a};
     }
 
+    /** Mostly an OPEN HALF, if there are some. */
+    private int[] openPair() {
+        int[] pair = anyPair();
+        for (int i = 0; i < TRIES && !isOpen(pair); i++) {
+            pair = anyPair();
+        }
+        return pair;
+    }
+
+    private boolean isOpen(int[] pair) {
+        return reference.sizeAt(pair[0], pair[1]) == 0 && reference.sizeAt(pair[1], pair[0]) > 0;
+    }
+
+    /** Mostly a pair between two FACES of 3 POINTS, if there are some. */
+    private int[] pairBetweenTriangles() {
+        int[] pair = anyPair();
+        for (int i = 0; i < TRIES && !isBetweenTriangles(pair); i++) {
+            pair = anyPair();
+        }
+        return pair;
+    }
+
+    private boolean isBetweenTriangles(int[] pair) {
+        return reference.sizeAt(pair[0], pair[1]) == 3 && reference.sizeAt(pair[1], pair[0]) == 3;
+    }
+
     private int coordinate() {
         return seldom() ? upTo(1200) - 600 : upTo(2 * reach + 1) - reach;
     }
@@ -103,10 +130,13 @@ public final class RandomRunsTest {
         same("meanEdge()", mesh::meanEdge, reference::meanEdge);
     }
 
-    /** A box, two boxes, a box in QUARTERS, a strip or a fan of FACES, or nothing. */
+    /** A box of 12 FACES of 3 POINTS, two boxes, a box in QUARTERS, a strip or a fan of FACES, or POINTS alone. */
     private void start(int kind) {
         if (kind == 0 || kind == 1 || kind == 2) {
             same("box", () -> mesh.box(-2, -1, 0, 3), () -> reference.box(-2, -1, 0, 3));
+        }
+        for (int f = 0; kind == 0 && f < 6; f++) {
+            cut(f, reference.corner(f, 0), reference.corner(f, 2));
         }
         if (kind == 1) {
             same("box", () -> mesh.box(0, 0, 0, 7), () -> reference.box(0, 0, 0, 7));
@@ -167,26 +197,22 @@ public final class RandomRunsTest {
         int b = pair[1];
         String ab = "(" + a + ", " + b + ")";
         int f = anyFace();
-        int size = reference.hasFace(f) ? reference.size(f) : 0;
-        int c = size == 0 || seldom() ? a : reference.corner(f, upTo(size));
-        int d = size == 0 || seldom() ? b : reference.corner(f, upTo(size));
         int dx = upTo(7) - 3;
         int dy = seldom() ? Integer.MAX_VALUE - upTo(2000) : upTo(7) - 3;
         int dz = seldom() ? Integer.MIN_VALUE + upTo(2000) : upTo(7) - 3;
         switch (upTo(22)) {
             case 0, 1 -> same("split" + ab, () -> mesh.split(a, b), () -> reference.split(a, b));
-            case 2, 3, 4, 5 -> same("cut(" + f + ", " + c + ", " + d + ")",
-                    () -> mesh.cut(f, c, d), () -> reference.cut(f, c, d));
+            case 2, 3, 4, 5 -> cutAcross(f, upTo(12), a, b);
             case 6, 7 -> same("join" + ab, () -> mesh.join(a, b), () -> reference.join(a, b));
             case 8 -> same("collapse" + ab, () -> mesh.collapse(a, b), () -> reference.collapse(a, b));
-            case 9, 10, 11, 12, 13 -> same("flip" + ab, () -> mesh.flip(a, b), () -> reference.flip(a, b));
+            case 9, 10, 11, 12, 13 -> flip(pairBetweenTriangles());
             case 14 -> {
                 if (upTo(3) == 0) {
                     same("draw(" + f + ", " + dx + ", " + dy + ", " + dz + ")",
                             () -> mesh.draw(f, dx, dy, dz), () -> reference.draw(f, dx, dy, dz));
                 }
             }
-            case 15, 16, 17 -> same("fill" + ab, () -> mesh.fill(a, b), () -> reference.fill(a, b));
+            case 15, 16, 17 -> fill(openPair());
             case 18 -> {
                 if (upTo(6) == 0) {
                     same("quarters()", mesh::quarters, reference::quarters);
@@ -194,9 +220,33 @@ public final class RandomRunsTest {
             }
             case 19 -> same("smooth()", mesh::smooth, reference::smooth);
             case 20 -> same("turn()", mesh::turn, reference::turn);
-            default -> same("cut(" + f + ", " + a + ", " + b + ")",
-                    () -> mesh.cut(f, a, b), () -> reference.cut(f, a, b));
+            default -> cut(f, a, b);
         }
+    }
+
+    /** Mostly from one POINT of the RING to one that is not beside it; from a to b in a FACE that has no such two. */
+    private void cutAcross(int f, int place, int a, int b) {
+        int n = reference.hasFace(f) ? reference.size(f) : 0;
+        if (n <= 3) {
+            cut(f, a, b);
+            return;
+        }
+        int behind = seldom() ? upTo(n) : 2 + upTo(n - 3);
+        cut(f, reference.corner(f, place % n), reference.corner(f, (place + behind) % n));
+    }
+
+    private void cut(int f, int a, int b) {
+        same("cut(" + f + ", " + a + ", " + b + ")", () -> mesh.cut(f, a, b), () -> reference.cut(f, a, b));
+    }
+
+    private void flip(int[] pair) {
+        same("flip(" + pair[0] + ", " + pair[1] + ")",
+                () -> mesh.flip(pair[0], pair[1]), () -> reference.flip(pair[0], pair[1]));
+    }
+
+    private void fill(int[] pair) {
+        same("fill(" + pair[0] + ", " + pair[1] + ")",
+                () -> mesh.fill(pair[0], pair[1]), () -> reference.fill(pair[0], pair[1]));
     }
 
     private void ask() {

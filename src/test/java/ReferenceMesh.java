@@ -157,6 +157,12 @@ final class ReferenceMesh {
         }
     }
 
+    /** How many POINTS the FACE with (a, b) has; 0 without one. */
+    int sizeAt(int a, int b) {
+        Integer f = owners().get(new Half(a, b));
+        return f == null ? 0 : faces.get(f).size();
+    }
+
     boolean hasFace(int f) {
         return f >= 0 && f < faces.size() && faces.get(f) != null;
     }
